@@ -116,6 +116,16 @@ public final class ChildrenTest {
         due.is("till they are full", x.sponsors(3, 0, 16), 6);
         due.is("when they are full", x.sponsors(3, 0, 16), 0);
         due.is("count(1)", x.count(1), 16);
+        PennyALap y = new PennyALap();
+        y.child(3);
+        Due.row(y, 0, 1, 0, 11, 12, 0, 21, 22);
+        due.is("the last three", y.sponsors(0, 3, 2), 1);
+        due.is("the last three's per", y.of(0, 4), 21);
+        due.is("all threes", y.sponsors(0, 0, 2), 2);
+        due.is("the last of all threes", y.of(2, 5), 22);
+        y.row(0, 1, 3);
+        due.is("a row of one three", y.sponsors(0, 0, 1), 1);
+        due.is("beyond its one place", y.sponsors(0, 1, 1), 0);
     }
 
     private static void mend() {

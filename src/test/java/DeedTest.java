@@ -240,5 +240,26 @@ public final class DeedTest {
         due.is("count(3)", x.count(3), 40);
         due.is("undo()", x.undo(), 39);
         due.is("prize", x.of(0, 12), 44);
+        changesOfMany();
+    }
+
+    /** 50 changes of four numbers in turn: the oldest ten are forgotten. */
+    private static void changesOfMany() {
+        PennyALap x = new PennyALap();
+        x.child(1);
+        x.sponsor(0, 0);
+        int[] whats = {12, 5, 7, 8};
+        for (int i = 0; i < 50; i++) {
+            x.mend(0, whats[i % 4], 100 + i);
+        }
+        for (int i = 49; i >= 10; i--) {
+            due.is("undo()", x.undo(), i - 10);
+            due.is("undone " + i, x.of(0, whats[i % 4]), 100 + i - 4);
+        }
+        due.is("undo(), none", x.undo(), -5);
+        for (int i = 10; i < 50; i++) {
+            due.is("redo()", x.redo(), 49 - i);
+            due.is("done again " + i, x.of(0, whats[i % 4]), 100 + i);
+        }
     }
 }

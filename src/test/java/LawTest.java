@@ -150,6 +150,8 @@ public final class LawTest {
         answer("(1=2)*8+(2=1)*4+(2=2)*2+2", 4);
         answer("1+1<2+1|0", 1);
         answer("(1+1<2+1)*7", 7);
+        // 120 bytes, each with a step of its own
+        answer("-1" + "+1".repeat(59), 58);
         answer("0?7", 1);
         answer("0?7;5", 5);
         answer("1?7;5", 7);

@@ -91,10 +91,12 @@ public final class SheetsTest {
         due.is("a child that is none", x.minutesFor(0), -2);
         Due.row(x, 0, 1, 0, 0);
         due.is("at once", x.minutesFor(0), 0);
-        Due.law(x, "k<9?99;108");
+        Due.law(x, "k=10?9;99");
         Due.row(x, 0, 1, 0, 100);
         due.is("by 990", x.minutesFor(0), 990);
         x.put(0, 1, 110);
+        due.is("just by 999", x.minutesFor(0), 999);
+        Due.law(x, "k=10?10;99");
         due.is("beyond 999", x.minutesFor(0), -2);
     }
 
@@ -194,7 +196,7 @@ public final class SheetsTest {
         }
         x.mend(0, 12, 5);
         for (int seed : new int[] {0, 1, -1, 7, 123456789, Integer.MIN_VALUE, Integer.MAX_VALUE}) {
-            for (int nt : new int[] {1000, 1001, 1005, 2050, 7100, 30033, 30999}) {
+            for (int nt : new int[] {1000, 1001, 1005, 2050, 7100, 30007, 30033, 30999}) {
                 int[] want = drawnFields(pace, cuts, per, 5, seed, nt / 1000, nt % 1000);
                 due.is("drawn(" + seed + ", " + nt + ", 0)", x.drawn(seed, nt, 0), want[0]);
                 due.is("drawn(" + seed + ", " + nt + ", 1)", x.drawn(seed, nt, 1), want[1]);

@@ -133,6 +133,8 @@ public final class ThoughtTest {
         due.is("owes more than purse", x.owes(0, 10, 0), 2500);
         x.mend(0, 6, 0);
         due.is("need 0", x.owes(0, 0, 0), 999);
+        x.mend(0, 7, 1);
+        due.is("a top of 1", x.owes(0, 50, 0), 1);
         for (int[] bad : new int[][] {{-1, 0, 0}, {1, 0, 0}, {0, -1, 0}, {0, 100, 0}, {0, 0, -1}, {0, 0, 2}}) {
             due.is("bad owes", x.owes(bad[0], bad[1], bad[2]), -1);
         }
@@ -216,8 +218,10 @@ public final class ThoughtTest {
         Due.law(y, "k=0?99;99");
         due.is("ten laps by 990", y.howLong(10), 990);
         due.is("no eleventh by 999", y.howLong(11), -2);
-        Due.law(y, "k<9?99;99-m%9+9");
-        due.is("the tenth by 999", y.laps(0, 999, 0), 10);
+        Due.law(y, "k=10?9;99");
+        due.is("the eleventh just by 999", y.howLong(11), 999);
+        Due.law(y, "k=10?10;99");
+        due.is("a minute too late", y.howLong(11), -2);
         // a prize that outweighs what was there at minute 0 makes the first minutes dearer
         y.mend(0, 5, 40);
         y.mend(0, 6, 0);
@@ -251,6 +255,14 @@ public final class ThoughtTest {
         due.is("a top, field(35, -1)", x.field(35, -1), 50);
         due.is("a top, field(35, -2): no minute for nothing", x.field(35, -2), 20);
         due.is("a top, field(35, 1)", x.field(35, 1), 2);
+        x.mend(0, 2, 99);
+        x.mend(1, 7, 0);
+        x.mend(0, 8, 600);
+        // 20 laps of the one fill its purse, the other has 100 minutes for 20 laps
+        due.is("field(300, -1)", x.field(300, -1), 800);
+        due.is("field(300, -2)", x.field(300, -2), 300);
+        due.is("field(300, 0)", x.field(300, 0), 20);
+        due.is("field(300, 1)", x.field(300, 1), 20);
         for (int[] bad : new int[][] {{-1, -1}, {301, -1}, {0, -3}, {0, 2}, {0, Integer.MIN_VALUE}}) {
             due.is("bad field", x.field(bad[0], bad[1]), -1);
         }
