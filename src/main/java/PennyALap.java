@@ -576,12 +576,13 @@ public final class PennyALap {
 
     /**
      * The tape, and the law that was read from it: steps for a stack, so that a law is read once and not at each lap.
-     * A step that is not below 0 is a number; all others are a sign with a minus ahead.
+     * A step that is not below 0 is a number, -1 to -6 are names; all others are a sign with a minus ahead.
      */
     private static final class Law {
         private static final int TAPE_MOST = 120, OPEN_MOST = 6, DIGITS_MOST = 4;
         private static final int COMPARING = 2, OPERAND = 5;
         private static final int NEGATE = 'n';
+        private static final int NAMES = 6, LAPS_AHEAD = 2, MINUTES_AHEAD = 3;
 
         private final int[] tape = new int[TAPE_MOST];
         private int fed;
@@ -592,7 +593,8 @@ public final class PennyALap {
         private int[] draft = new int[TAPE_MOST + 1];
         private int draftCount;
         private final int[] stack = new int[TAPE_MOST + 1];
-        private int pace, tires, lapsAhead, minutesAhead, rain, child;
+        /** What p, t, k, m, r, c stand for. */
+        private final int[] names = new int[NAMES];
 
         int fed() {
             return fed;
@@ -680,9 +682,10 @@ public final class PennyALap {
                 readNumber();
                 return true;
             }
-            if (isName(sign)) {
+            int name = nameOf(sign);
+            if (name >= 0) {
                 at++;
-                write(-sign);
+                write(-1 - name);
                 return true;
             }
             if (sign != '(' && sign != '!' && sign != '-' || open >= OPEN_MOST) {
@@ -730,8 +733,16 @@ public final class PennyALap {
             return sign >= '0' && sign <= '9';
         }
 
-        private static boolean isName(int sign) {
-            return sign == 'p' || sign == 't' || sign == 'k' || sign == 'm' || sign == 'r' || sign == 'c';
+        private static int nameOf(int sign) {
+            switch (sign) {
+                case 'p': return 0;
+                case 't': return 1;
+                case 'k': return LAPS_AHEAD;
+                case 'm': return MINUTES_AHEAD;
+                case 'r': return 4;
+                case 'c': return 5;
+                default: return -1;
+            }
         }
 
         private static int levelOf(int sign) {
@@ -749,50 +760,42 @@ public final class PennyALap {
             return stepCount > 0;
         }
 
-        void ofChild(int number, int itsPace, int itsTires, int theRain) {
-            child = number;
-            pace = itsPace;
-            tires = itsTires;
-            rain = theRain;
+        void ofChild(int child, int pace, int tires, int rain) {
+            names[0] = pace;
+            names[1] = tires;
+            names[4] = rain;
+            names[5] = child;
         }
 
         /** What the law gives behind so many laps and minutes of the child that was told last. */
         int gives(int laps, int minutes) {
-            lapsAhead = laps;
-            minutesAhead = minutes;
+            names[LAPS_AHEAD] = laps;
+            names[MINUTES_AHEAD] = minutes;
             int height = 0;
             for (int i = 0; i < stepCount; i++) {
                 int step = steps[i];
-                int top = height >= 1 ? stack[height - 1] : 0;
-                int below = height >= 2 ? stack[height - 2] : 0;
-                if (step == -';' || step == -'?' && below != 0) {
-                    return top;
-                }
-                if (step == -'?') {
-                    height = 0;
-                    continue;
-                }
-                boolean brings = step >= 0 || isName(-step);
-                boolean turns = step == -'!' || step == -NEGATE;
-                int worked = brings ? brought(step) : turns ? turned(-step, top) : joined(-step, below, top);
-                height += brings ? 1 : turns ? 0 : -1;
-                if (height >= 1 && height <= stack.length) {
-                    stack[height - 1] = worked;
+                if (step >= -NAMES && height < stack.length) {
+                    stack[height] = step >= 0 ? step : names[-1 - step];
+                    height++;
+                } else if (height < 1) {
+                    return 0;
+                } else if (step == -';') {
+                    return stack[height - 1];
+                } else if (step == -'!' || step == -NEGATE) {
+                    stack[height - 1] = turned(-step, stack[height - 1]);
+                } else if (height < 2) {
+                    return 0;
+                } else if (step == -'?') {
+                    if (stack[height - 2] != 0) {
+                        return stack[height - 1];
+                    }
+                    height -= 2;
+                } else {
+                    height--;
+                    stack[height - 1] = joined(-step, stack[height - 1], stack[height]);
                 }
             }
             return 0;
-        }
-
-        private int brought(int step) {
-            switch (-step) {
-                case 'p': return pace;
-                case 't': return tires;
-                case 'k': return lapsAhead;
-                case 'm': return minutesAhead;
-                case 'r': return rain;
-                case 'c': return child;
-                default: return step;
-            }
         }
 
         private static int turned(int sign, int a) {
@@ -1032,12 +1035,12 @@ public final class PennyALap {
 
     /** A field that is only thought of: the laps each child has by some minute, and what follows from them. */
     private static final class Thought {
-        private static final int ENDS = LAPS_MOST + 1;
+        static final int ENDS = LAPS_MOST + 1;
 
         private final Folk folk;
         private final int[] now = new int[CHILDREN];
         /** By child: the minute in which the k-th lap is over, and how many laps are over in time. */
-        private final int[] ends = new int[CHILDREN * ENDS];
+        final int[] ends = new int[CHILDREN * ENDS];
         private final int[] reach = new int[CHILDREN];
 
         Thought(Folk folk) {
@@ -1199,7 +1202,7 @@ public final class PennyALap {
 
     /** Who should run how long while the field is free. */
     private static final class Plan {
-        private static final int MINUTES = FIELD_MOST + 1, LAPS = LAPS_MOST + 1;
+        private static final int MINUTES = FIELD_MOST + 1, LAPS = Thought.ENDS;
         /** A penny outweighs all minutes there are, so that pence and minutes can be weighed as one number. */
         private static final int PENNY = 512;
 
@@ -1207,8 +1210,8 @@ public final class PennyALap {
         private final Thought thought;
         /** By child and laps: what they are worth, pence for and minutes against them. */
         private final int[] worth = new int[CHILDREN * LAPS];
-        /** By child and minutes: the most that it and those behind it can be worth in these minutes. */
-        private final int[] best = new int[CHILDREN * MINUTES];
+        /** By child and minutes: the most that it and those behind it can be worth; behind the last stay zeros. */
+        private final int[] best = new int[(CHILDREN + 1) * MINUTES];
         private final int[] chosen = new int[CHILDREN];
 
         Plan(Folk folk, Thought thought) {
@@ -1234,21 +1237,22 @@ public final class PennyALap {
             }
         }
 
+        /** Nothing is looked at more often than the laps here, so rows are read without a call. */
         private int bestOf(int child, int left) {
-            int most = worthWith(child, 0, left);
-            for (int k = 1; k <= thought.reachOf(child) && thought.endOf(child, k) <= left; k++) {
-                most = Math.max(most, worthWith(child, k, left));
+            int[] ends = thought.ends;
+            int reach = thought.reachOf(child);
+            int laps = child * LAPS;
+            int behind = (child + 1) * MINUTES + left;
+            int most = worth[laps] + best[behind];
+            for (int k = 1; k <= reach && ends[laps + k] <= left; k++) {
+                most = Math.max(most, worth[laps + k] + best[behind - ends[laps + k]]);
             }
             return most;
         }
 
         private int worthWith(int child, int laps, int left) {
-            return worth[child * LAPS + laps] + bestFrom(child + 1, left - thought.endOf(child, laps));
-        }
-
-        private int bestFrom(int child, int left) {
-            boolean isKnown = child < folk.childCount() && left >= 0 && left <= FIELD_MOST;
-            return isKnown ? best[child * MINUTES + left] : 0;
+            int rest = left - thought.endOf(child, laps);
+            return worth[child * LAPS + laps] + (rest >= 0 ? best[(child + 1) * MINUTES + rest] : 0);
         }
 
         /** The fewest laps that still reach the best, child by child: so the first by laps of like ones. */
@@ -1256,11 +1260,11 @@ public final class PennyALap {
             int left = m;
             for (int c = 0; c < folk.childCount(); c++) {
                 int k = 0;
-                while (k < thought.reachOf(c) && worthWith(c, k, left) != bestFrom(c, left)) {
+                while (k < thought.reachOf(c) && worthWith(c, k, left) != best[c * MINUTES + left]) {
                     k++;
                 }
                 chosen[c] = k;
-                left -= thought.endOf(c, k);
+                left = Math.max(0, left - thought.endOf(c, k));
             }
         }
 

@@ -103,8 +103,10 @@ public final class LawTest {
         x.child(3);
         x.mend(1, 1, 2);
         x.mend(0, 9, 7);
-        due.is("law() of " + text, Due.law(x, text), 1);
-        due.is("lap by " + text, x.lap(1, 5040), want);
+        for (int i = 0; i < 3; i++) {
+            due.is("law() of " + text, Due.law(x, text), 1);
+            due.is("lap by " + text, x.lap(1, 5040), want);
+        }
     }
 
     /** p 3, t 2, k 5, m 40, r 7, c 1. */
