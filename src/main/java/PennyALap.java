@@ -446,17 +446,17 @@ public final class PennyALap {
     }
 
     public int anew() {
-        int laps = deed.lapsOfAll();
+        int laps = deed.lapsOfField();
         deed.newField();
         return laps;
     }
 
     public int led(int what) {
         switch (what) {
-            case 0: return deed.lapsOfAll();
-            case 1: return deed.paidByAll();
+            case 0: return deed.ledLaps();
+            case 1: return deed.ledPence();
             case 2: return deed.fields();
-            case 3: return deed.minutesOfAll();
+            case 3: return deed.ledMinutes();
             case 4: return deed.surprises();
             default: return BAD;
         }
@@ -465,7 +465,7 @@ public final class PennyALap {
     public int image() {
         kept.becomeLike(deed);
         isKept = true;
-        return deed.lapsOfAll();
+        return deed.ledLaps();
     }
 
     public int back() {
@@ -473,7 +473,7 @@ public final class PennyALap {
             return STATE;
         }
         deed.becomeLike(kept);
-        return deed.lapsOfAll();
+        return deed.ledLaps();
     }
 
     public int undo() {
@@ -1377,11 +1377,17 @@ public final class PennyALap {
         }
     }
 
-    /** A field in deed, or the image of one. */
+    /**
+     * A field in deed and what is led, or the image of both. The rows are of the field there is; what is led is
+     * kept beside them, as it stays when a new field takes them.
+     */
     private static final class Deed {
         private final int[] laps = new int[CHILDREN];
         private final int[] minutes = new int[CHILDREN];
         private final int[] paid = new int[SPONSORS];
+        private int ledLaps;
+        private int ledPence;
+        private int ledMinutes;
         private int fields;
         private int surprises;
 
@@ -1397,6 +1403,18 @@ public final class PennyALap {
             return sponsor >= 0 && sponsor < SPONSORS ? paid[sponsor] : 0;
         }
 
+        int ledLaps() {
+            return ledLaps;
+        }
+
+        int ledPence() {
+            return ledPence;
+        }
+
+        int ledMinutes() {
+            return ledMinutes;
+        }
+
         int fields() {
             return fields;
         }
@@ -1405,21 +1423,9 @@ public final class PennyALap {
             return surprises;
         }
 
-        int lapsOfAll() {
-            return sum(laps);
-        }
-
-        int minutesOfAll() {
-            return sum(minutes);
-        }
-
-        int paidByAll() {
-            return sum(paid);
-        }
-
-        private static int sum(int[] row) {
+        int lapsOfField() {
             int sum = 0;
-            for (int v : row) {
+            for (int v : laps) {
                 sum += v;
             }
             return sum;
@@ -1427,6 +1433,8 @@ public final class PennyALap {
 
         void lapRun(int child, int minutesThen) {
             if (child >= 0 && child < CHILDREN) {
+                ledLaps++;
+                ledMinutes += minutesThen - minutes[child];
                 laps[child]++;
                 minutes[child] = minutesThen;
             }
@@ -1435,6 +1443,7 @@ public final class PennyALap {
         void asked(int sponsor, int pays, boolean isSurprised) {
             if (sponsor >= 0 && sponsor < SPONSORS) {
                 paid[sponsor] += pays;
+                ledPence += pays;
                 surprises += isSurprised ? 1 : 0;
             }
         }
@@ -1455,6 +1464,9 @@ public final class PennyALap {
             System.arraycopy(other.laps, 0, laps, 0, CHILDREN);
             System.arraycopy(other.minutes, 0, minutes, 0, CHILDREN);
             System.arraycopy(other.paid, 0, paid, 0, SPONSORS);
+            ledLaps = other.ledLaps;
+            ledPence = other.ledPence;
+            ledMinutes = other.ledMinutes;
             fields = other.fields;
             surprises = other.surprises;
         }

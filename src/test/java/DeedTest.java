@@ -1,3 +1,5 @@
+import java.util.Random;
+
 /** Promises 29 to 36: run, ask, anew, led, image, back, undo, redo. */
 public final class DeedTest {
     private static final Due due = new Due();
@@ -7,6 +9,7 @@ public final class DeedTest {
         ask();
         anewAndLed();
         imageAndBack();
+        ledBesideAnswers();
         undoAndRedo();
         manyChanges();
         due.end();
@@ -109,15 +112,20 @@ public final class DeedTest {
             due.is("laps anew", x.of(n, 15), 0);
             due.is("minutes anew", x.of(n, 16), 0);
         }
-        due.is("led(0): no laps", x.led(0), 0);
-        due.is("led(1): nothing paid", x.led(1), 0);
+        due.is("led(0): laps stay led", x.led(0), 3);
+        due.is("led(1): pence stay led", x.led(1), 35);
         due.is("led(2)", x.led(2), 1);
-        due.is("led(3)", x.led(3), 0);
+        due.is("led(3): minutes stay led", x.led(3), 11);
         due.is("led(4): surprises stay", x.led(4), 1);
         due.is("run anew", x.run(0), 3);
         due.is("ask anew", x.ask(0), 10);
-        due.is("anew() again", x.anew(), 1);
-        due.is("led(2)", x.led(2), 2);
+        due.is("led(0) goes on", x.led(0), 4);
+        due.is("led(1) goes on", x.led(1), 45);
+        due.is("led(3) goes on", x.led(3), 14);
+        due.is("anew() again: of the field there is", x.anew(), 1);
+        due.is("anew() of a field without laps", x.anew(), 0);
+        due.is("led(0)", x.led(0), 4);
+        due.is("led(2)", x.led(2), 3);
         due.is("numbers stay", x.of(1, 8), 15);
         due.is("changes stay", x.count(3), 1);
     }
@@ -163,6 +171,82 @@ public final class DeedTest {
         x.run(1);
         due.is("back() to it", x.back(), 3);
         due.is("minutes of it", x.led(3), 10);
+        imageBehindNewField();
+    }
+
+    /** The rows of the field and what is led are kept and laid back each for itself. */
+    private static void imageBehindNewField() {
+        PennyALap x = new PennyALap();
+        x.child(3);
+        x.sponsor(0, 10);
+        x.run(0);
+        x.run(0);
+        x.ask(0);
+        x.anew();
+        due.is("image() behind a new field", x.image(), 2);
+        x.run(0);
+        x.ask(0);
+        x.anew();
+        x.run(0);
+        due.is("back() behind another", x.back(), 2);
+        due.is("laps of the field", x.of(0, 15), 0);
+        due.is("minutes of the field", x.of(0, 16), 0);
+        due.is("paid in the field", x.of(0, 14), 0);
+        due.is("led(0)", x.led(0), 2);
+        due.is("led(1)", x.led(1), 20);
+        due.is("led(2)", x.led(2), 1);
+        due.is("led(3)", x.led(3), 6);
+        x.run(0);
+        due.is("image() with a lap more", x.image(), 3);
+        due.is("anew() of that lap", x.anew(), 1);
+        due.is("back() ahead of it", x.back(), 3);
+        due.is("the lap of the field", x.of(0, 15), 1);
+        due.is("anew() of that lap again", x.anew(), 1);
+    }
+
+    /** Random deeds: what is led is the sum of what the calls answered, as far as no image took it back. */
+    private static void ledBesideAnswers() {
+        Random random = new Random(5);
+        for (int round = 0; round < 120; round++) {
+            PennyALap x = new PennyALap();
+            for (int n = 0; n < 3; n++) {
+                x.child(1 + random.nextInt(30));
+                x.mend(n, 1, random.nextInt(10));
+            }
+            for (int s = 0; s < 5; s++) {
+                x.sponsor(random.nextInt(3), random.nextInt(201));
+                x.mend(s, 8, random.nextInt(900));
+            }
+            int[] led = new int[5];
+            int[] image = null;
+            for (int i = 0; i < 40; i++) {
+                int deed = random.nextInt(24);
+                if (deed < 12) {
+                    int child = random.nextInt(3);
+                    int before = x.of(child, 16);
+                    led[3] += x.run(child) - before;
+                    led[0]++;
+                } else if (deed < 20) {
+                    int sponsor = random.nextInt(5);
+                    int laps = x.of(x.of(sponsor, 13), 15);
+                    led[4] += x.owes(sponsor, laps, 0) > x.of(sponsor, 8) ? 1 : 0;
+                    led[1] += x.ask(sponsor);
+                } else if (deed == 20 || deed == 21) {
+                    int laps = x.of(0, 15) + x.of(1, 15) + x.of(2, 15);
+                    due.is("anew(), random", x.anew(), laps);
+                    led[2]++;
+                } else if (deed == 22) {
+                    due.is("image(), random", x.image(), led[0]);
+                    image = led.clone();
+                } else {
+                    led = image == null ? led : image.clone();
+                    due.is("back(), random", x.back(), image == null ? -5 : led[0]);
+                }
+                for (int what = 0; what < 5; what++) {
+                    due.is("led(" + what + "), random", x.led(what), led[what]);
+                }
+            }
+        }
     }
 
     private static void undoAndRedo() {
