@@ -1,21 +1,15 @@
 /** The edges of promises 37 to 39, and of what Terms 5 says of bodies and acts. */
-final class EdgesOfActs {
-    private static final int MIN = Integer.MIN_VALUE;
-    private static final int MAX = Integer.MAX_VALUE;
-    private static final Made.State FRESH = Made.State.FRESH;
-    private static final Made.State SOME = Made.State.SOME;
-    private static final Made.State FULL = Made.State.FULL;
+final class EdgesOfActs extends EdgesOf {
     private static final int RUNS = 0;
     private static final int OWES = 1;
     private static final int PAYS = 2;
     private static final int TELLS = 3;
 
-    private final Edges edges;
-
     EdgesOfActs(Edges edges) {
-        this.edges = edges;
+        super(edges);
     }
 
+    @Override
     void all() {
         bodiesCome();
         bodyRefused();

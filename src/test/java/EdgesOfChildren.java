@@ -1,19 +1,13 @@
 /** The edges of promises 1 to 6, and of what Terms 1 and 5 say of children and sponsors. */
-final class EdgesOfChildren {
-    private static final int MIN = Integer.MIN_VALUE;
-    private static final int MAX = Integer.MAX_VALUE;
-    private static final Made.State FRESH = Made.State.FRESH;
-    private static final Made.State SOME = Made.State.SOME;
-    private static final Made.State FULL = Made.State.FULL;
+final class EdgesOfChildren extends EdgesOf {
     private static final int[] LEAST = {1, 0, 0, 0, 0, 0, 0, 0, 0, 0, 0, 1, 0};
     private static final int[] MOST = {30, 9, 99, 12, 200, 999, 99, 9999, 9999, 9, 12, 4, 999};
 
-    private final Edges edges;
-
     EdgesOfChildren(Edges edges) {
-        this.edges = edges;
+        super(edges);
     }
 
+    @Override
     void all() {
         newObject();
         numbersOfComers();

@@ -1,17 +1,10 @@
 /** The edges of promises 20 to 22, and of what Terms 3 says of what is coming in. */
-final class EdgesOfComing {
-    private static final int MIN = Integer.MIN_VALUE;
-    private static final int MAX = Integer.MAX_VALUE;
-    private static final Made.State FRESH = Made.State.FRESH;
-    private static final Made.State SOME = Made.State.SOME;
-    private static final Made.State FULL = Made.State.FULL;
-
-    private final Edges edges;
-
+final class EdgesOfComing extends EdgesOf {
     EdgesOfComing(Edges edges) {
-        this.edges = edges;
+        super(edges);
     }
 
+    @Override
     void all() {
         weekByWeek();
         reminded();
@@ -204,7 +197,7 @@ final class EdgesOfComing {
     private void comesRefused() {
         edges.promise(20, "COMING IN by w weeks. BAD, -11, -12 (no ROW of bytes).");
         byMinutes("comes", (x, tw) -> x.comes(0, tw));
-        for (int shelf : new int[] {-1, 6, MIN, MAX}) {
+        for (int shelf : NO_SHELF) {
             edges.refused("comes(" + shelf + ", 101)", SOME, -1, y -> y.comes(shelf, 101));
         }
         for (int tw : new int[] {-1, -100, 61, 99, 161, 199, 99961, 99999, 100000, MIN, MAX}) {
@@ -234,7 +227,7 @@ final class EdgesOfComing {
         edges.is("by(0, 50000)", x.by(0, 50000), 0);
         edges.is("by(0, 50012): 50 laps by T 500", x.by(0, 50012), 50);
         edges.is("by(0, 50912): 50 laps by T 509", x.by(0, 50912), 50);
-        for (int shelf : new int[] {-1, 6, MIN, MAX}) {
+        for (int shelf : NO_SHELF) {
             edges.refused("by(" + shelf + ", 101)", SOME, -1, y -> y.by(shelf, 101));
         }
         for (int tx : new int[] {-1, -100, 13, 60, 99, 113, 99913, 100000, MIN, MAX}) {
@@ -258,7 +251,7 @@ final class EdgesOfComing {
         byMinutes("remind", (x, tw) -> x.remind(0, tw, 1));
         for (int what = 0; what <= 1; what++) {
             int w = what;
-            for (int shelf : new int[] {-1, 6, MIN, MAX}) {
+            for (int shelf : NO_SHELF) {
                 edges.refused("remind(" + shelf + ", 101, " + what + ")", SOME, -1, y -> y.remind(shelf, 101, w));
             }
             for (int tw : new int[] {-1, 61, 99, 199, 99961, 100000, MIN, MAX}) {

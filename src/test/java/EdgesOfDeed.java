@@ -1,17 +1,10 @@
 /** The edges of promises 29 to 36, and of what Terms 4 says of what is in deed. */
-final class EdgesOfDeed {
-    private static final int MIN = Integer.MIN_VALUE;
-    private static final int MAX = Integer.MAX_VALUE;
-    private static final Made.State FRESH = Made.State.FRESH;
-    private static final Made.State SOME = Made.State.SOME;
-    private static final Made.State FULL = Made.State.FULL;
-
-    private final Edges edges;
-
+final class EdgesOfDeed extends EdgesOf {
     EdgesOfDeed(Edges edges) {
-        this.edges = edges;
+        super(edges);
     }
 
+    @Override
     void all() {
         runs();
         runRefused();
@@ -55,7 +48,7 @@ final class EdgesOfDeed {
 
     private void runRefused() {
         edges.promise(29, "A CHILD RUNS a LAP: its minutes then. BAD; STATE: STOPS, or they would be more than 9999.");
-        for (int child : new int[] {-1, 3, 6, MIN, MAX}) {
+        for (int child : NO_CHILD) {
             edges.refused("run(" + child + ")", SOME, -1, y -> y.run(child));
         }
         edges.refused("run(0)", FRESH, -1, y -> y.run(0));
@@ -110,7 +103,7 @@ final class EdgesOfDeed {
 
     private void askRefused() {
         edges.promise(30, "A SPONSOR is ASKED: what it PAYS now. BAD.");
-        for (int sponsor : new int[] {-1, 4, 16, MIN, MAX}) {
+        for (int sponsor : NO_SPONSOR) {
             edges.refused("ask(" + sponsor + ")", SOME, -1, y -> y.ask(sponsor));
         }
         edges.refused("ask(0)", FRESH, -1, y -> y.ask(0));

@@ -1,20 +1,14 @@
 /** The edges of promises 7 to 9, and of what Terms 1 says of the law. */
-final class EdgesOfLaw {
-    private static final int MIN = Integer.MIN_VALUE;
-    private static final int MAX = Integer.MAX_VALUE;
-    private static final Made.State FRESH = Made.State.FRESH;
-    private static final Made.State SOME = Made.State.SOME;
-    private static final Made.State FULL = Made.State.FULL;
+final class EdgesOfLaw extends EdgesOf {
     /** Texts that wrap: 4096 * 4096 * 128 is 2 to the 31st, so the least int, and one less the greatest. */
     private static final String LEAST = "(4096*4096*128)";
     private static final String GREATEST = "(4096*4096*128-1)";
 
-    private final Edges edges;
-
     EdgesOfLaw(Edges edges) {
-        this.edges = edges;
+        super(edges);
     }
 
+    @Override
     void all() {
         tape();
         lines();

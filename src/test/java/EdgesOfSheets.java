@@ -1,21 +1,12 @@
 /** The edges of promises 23 to 28, and of what Terms 3 and 4 say of sheets, the oak and draws. */
-final class EdgesOfSheets {
-    private static final int MIN = Integer.MIN_VALUE;
-    private static final int MAX = Integer.MAX_VALUE;
-    private static final Made.State FRESH = Made.State.FRESH;
-    private static final Made.State SOME = Made.State.SOME;
-    private static final Made.State FULL = Made.State.FULL;
-    private static final int[] NO_SHELF = {-1, 6, MIN, MAX};
-    private static final int[] NO_T = {-1, 1000, MIN, MAX};
-    private static final int[] NO_CHILD = {-1, 3, 6, MIN, MAX};
+final class EdgesOfSheets extends EdgesOf {
     private static final int[] NO_PENCE = {-1, 100000, MIN, MAX};
 
-    private final Edges edges;
-
     EdgesOfSheets(Edges edges) {
-        this.edges = edges;
+        super(edges);
     }
 
+    @Override
     void all() {
         judged();
         judgeRefused();
@@ -380,8 +371,9 @@ final class EdgesOfSheets {
     private void cutShort() {
         edges.term(4, "it is cut short, if (z >>> 8) % 12 is below CUTS: it takes half (cut; 1 at least)");
         PennyALap x = new PennyALap();
-        x.child(2);
         for (int cuts = 0; cuts <= 12; cuts++) {
+            x = new PennyALap();
+            x.child(2);
             x.mend(0, 3, cuts);
             for (int seed = -40; seed <= 40; seed++) {
                 int rest = (next(seed * 26843545) >>> 8) % 12;

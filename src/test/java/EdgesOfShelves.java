@@ -1,19 +1,12 @@
 /** The edges of promises 40 to 46, of what Terms 5 says of shelves, and of the answers that all calls share. */
-final class EdgesOfShelves {
-    private static final int MIN = Integer.MIN_VALUE;
-    private static final int MAX = Integer.MAX_VALUE;
+final class EdgesOfShelves extends EdgesOf {
     private static final long NONE = Long.MIN_VALUE;
-    private static final Made.State FRESH = Made.State.FRESH;
-    private static final Made.State SOME = Made.State.SOME;
-    private static final Made.State FULL = Made.State.FULL;
-    private static final int[] NO_SHELF = {-1, 6, MIN, MAX};
-
-    private final Edges edges;
 
     EdgesOfShelves(Edges edges) {
-        this.edges = edges;
+        super(edges);
     }
 
+    @Override
     void all() {
         shelves();
         lowestBits();
@@ -33,28 +26,12 @@ final class EdgesOfShelves {
     private void shelves() {
         edges.term(5, "SHELVES 0 .. 5 each hold nothing (at first), a BODY, or a ROW: of 0 bytes, 1 shorts, 2 ints, 3 longs, 4 booleans, of 0 .. 60"
             + " elements, 0 at first (false)");
-        PennyALap x = new PennyALap();
-        x.body(3);
         for (int shelf = 0; shelf <= 5; shelf++) {
-            edges.is("nothing at first: shelf " + shelf, x.taken(shelf, 0), -11);
-            edges.is("a body: shelf " + shelf, x.keep(shelf, 0), 1);
-            edges.is("its kind: shelf " + shelf, x.taken(shelf, 0), 3);
             for (int sort = 0; sort <= 4; sort++) {
-                edges.is("a row of 60", x.row(shelf, sort, 60), 1);
-                for (int i = 0; i < 60; i++) {
-                    edges.is("0 at first", x.element(shelf, i), 0);
-                    x.put(shelf, i, -1);
-                }
-                edges.is("no place 60", x.element(shelf, 60), NONE);
-                edges.is("a row of none", x.row(shelf, sort, 0), 1);
-                edges.is("no place 0", x.element(shelf, 0), NONE);
-                edges.is("a row of 1", x.row(shelf, sort, 1), 1);
-                edges.is("0 again", x.element(shelf, 0), 0);
-                edges.is("no place 1", x.element(shelf, 1), NONE);
+                oneShelf(shelf, sort);
             }
-            edges.is("nothing again", x.keep(shelf, -1), 1);
-            edges.is("nothing again: shelf " + shelf, x.put(shelf, 0, 1), -11);
         }
+        PennyALap x = new PennyALap();
         for (int shelf = 0; shelf <= 5; shelf++) {
             x.row(shelf, 3, 60);
             x.put(shelf, 0, 10 + shelf);
@@ -64,6 +41,28 @@ final class EdgesOfShelves {
             edges.is("each its own first", x.element(shelf, 0), 10 + shelf);
             edges.is("each its own last", x.element(shelf, 59), 20 + shelf);
         }
+    }
+
+    /** Nothing, a body, a full row, an empty one, a row of one element, and nothing again. */
+    private void oneShelf(int shelf, int sort) {
+        PennyALap x = new PennyALap();
+        x.body(3);
+        edges.is("nothing at first: shelf " + shelf, x.taken(shelf, 0), -11);
+        edges.is("a body: shelf " + shelf, x.keep(shelf, 0), 1);
+        edges.is("its kind: shelf " + shelf, x.taken(shelf, 0), 3);
+        edges.is("a row of 60", x.row(shelf, sort, 60), 1);
+        for (int i = 0; i < 60; i++) {
+            edges.is("0 at first", x.element(shelf, i), 0);
+            x.put(shelf, i, -1);
+        }
+        edges.is("no place 60", x.element(shelf, 60), NONE);
+        edges.is("a row of none", x.row(shelf, sort, 0), 1);
+        edges.is("no place 0", x.element(shelf, 0), NONE);
+        edges.is("a row of 1", x.row(shelf, sort, 1), 1);
+        edges.is("0 again", x.element(shelf, 0), 0);
+        edges.is("no place 1", x.element(shelf, 1), NONE);
+        edges.is("nothing again", x.keep(shelf, -1), 1);
+        edges.is("nothing again: shelf " + shelf, x.put(shelf, 0, 1), -11);
     }
 
     private void lowestBits() {

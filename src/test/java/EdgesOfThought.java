@@ -1,21 +1,12 @@
 /** The edges of promises 10 to 19, and of what Terms 1 and 2 say of owing and of what is in thought. */
-final class EdgesOfThought {
-    private static final int MIN = Integer.MIN_VALUE;
-    private static final int MAX = Integer.MAX_VALUE;
-    private static final Made.State FRESH = Made.State.FRESH;
-    private static final Made.State SOME = Made.State.SOME;
-    private static final Made.State FULL = Made.State.FULL;
-    private static final int[] NO_CHILD = {-1, 3, 6, MIN, MAX};
-    private static final int[] NO_SPONSOR = {-1, 4, 16, MIN, MAX};
-    private static final int[] NO_T = {-1, 1000, MIN, MAX};
+final class EdgesOfThought extends EdgesOf {
     private static final int[] NO_LAPS = {-1, 100, MIN, MAX};
 
-    private final Edges edges;
-
     EdgesOfThought(Edges edges) {
-        this.edges = edges;
+        super(edges);
     }
 
+    @Override
     void all() {
         overByT();
         owing();

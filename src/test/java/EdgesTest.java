@@ -8,14 +8,11 @@ import java.nio.file.Path;
 public final class EdgesTest {
     public static void main(String[] args) throws IOException {
         Edges edges = new Edges(new Doc(Path.of("../shared/DOC.md")));
-        new EdgesOfChildren(edges).all();
-        new EdgesOfLaw(edges).all();
-        new EdgesOfThought(edges).all();
-        new EdgesOfComing(edges).all();
-        new EdgesOfSheets(edges).all();
-        new EdgesOfDeed(edges).all();
-        new EdgesOfActs(edges).all();
-        new EdgesOfShelves(edges).all();
+        EdgesOf[] parts = {new EdgesOfChildren(edges), new EdgesOfLaw(edges), new EdgesOfThought(edges), new EdgesOfComing(edges),
+            new EdgesOfSheets(edges), new EdgesOfDeed(edges), new EdgesOfActs(edges), new EdgesOfShelves(edges)};
+        for (EdgesOf part : parts) {
+            part.all();
+        }
         edges.end();
     }
 }
